@@ -11,6 +11,7 @@ public final class RandomTest {
     private final int marksTold;
     private final int offices;
     private final int highest;
+    private final int heads;
     private int calls = 0;
 
     private RandomTest(int run) {
@@ -19,6 +20,7 @@ public final class RandomTest {
         marksTold = 1 + r.nextInt(6);
         offices = 1 + r.nextInt(8);
         highest = r.nextInt(3) == 0 ? 9 : 1 + r.nextInt(4);
+        heads = r.nextInt(9);
     }
 
     private void due(String call, long got, long want) {
@@ -163,7 +165,7 @@ public final class RandomTest {
 
     private void send() {
         int office = near(0, offices - 1);
-        boolean first = r.nextInt(3) > 0, second = r.nextBoolean();
+        boolean first = r.nextInt(8) < heads, second = r.nextInt(8) >= heads;
         due("letter(" + office + ", " + first + ", " + second + ")", x.letter(office, first, second), y.letter(office, first, second));
     }
 
@@ -173,22 +175,32 @@ public final class RandomTest {
         else due("back(" + k + ")", x.back(k), y.back(k));
     }
 
+    /** Tells the first MARKS of the youngest CASE, most of them. */
+    private void tellYoungest(int many) {
+        for (int m = 0; m < many; m++) {
+            if (r.nextInt(12) > 0) {
+                int k = y.people.size() - 1, v = near(0, highest);
+                due("mark(" + k + ", " + m + ", " + v + ")", x.mark(k, m, v), y.mark(k, m, v));
+            }
+        }
+    }
+
     private void go() {
-        int people = r.nextInt(4) == 0 ? 90 : 5 + r.nextInt(30);
-        int told = r.nextInt(4);
+        int people = r.nextInt(6) == 0 ? 40 + r.nextInt(170) : 4 + r.nextInt(36);
+        int many = people > 100 ? r.nextInt(2) : people > 40 ? r.nextInt(4) : r.nextInt(7);
         for (int i = 0; i < people; i++) {
             ask();
-            for (int j = 0; j < told && calls < 250; j++) tell();
+            if (calls < 300) tellYoungest(many);
         }
         int texts = 2 + r.nextInt(10);
-        for (int i = 0; i < texts && calls < 350; i++) text();
+        for (int i = 0; i < texts && calls < 370; i++) text();
         int letters = r.nextInt(3) == 0 ? r.nextInt(60) : r.nextInt(10);
-        for (int i = 0; i < letters && calls < 400; i++) send();
-        while (calls < 480) {
+        for (int i = 0; i < letters && calls < 420; i++) send();
+        while (calls < 505) {
             int kind = r.nextInt(60);
             if (kind == 0) ask();
             else if (kind == 1) tell();
-            else if (kind == 2) text();
+            else if (kind == 2 && calls < 490) text();
             else if (kind == 3) send();
             else if (kind == 4) keep();
             else look();

@@ -89,7 +89,7 @@ final class Texts {
             s.append(blank(r));
         }
         if (r.nextInt(3) == 0) s.append(s.length() == 0 ? "" : ";").append("within ").append(r.nextInt(r.nextInt(2) == 0 ? 20 : 1000));
-        if (s.length() == 0 || r.nextInt(4) == 0) s.append(s.length() == 0 ? "" : "; ").append("among ").append(test(r, 1));
+        if (s.length() == 0 || r.nextInt(5) == 0) s.append(s.length() == 0 ? "" : "; ").append("among ").append(r.nextInt(2) == 0 ? "stage >= 0" : test(r, 1));
         return s.toString();
     }
 
@@ -105,7 +105,7 @@ final class Texts {
             case 1: return insert(text, at, oneOf(r, "[", "]", "(", ";", "+", "=", "\t", "M", "1", "a", "\0", "\u00ff", "12345", " "));
             case 2: return at < text.length() ? text.substring(0, at) + text.substring(at + 1) : text + ";";
             case 3: return text + ";" + view(r);
-            case 4: return text + " and " + "[".repeat(9 + r.nextInt(3)) + "ma = 1" + "]".repeat(9 + r.nextInt(3));
+            case 4: return text + (r.nextBoolean() ? " and " : "; among ") + "[".repeat(9 + r.nextInt(3)) + "ma = 1" + "]".repeat(9 + r.nextInt(3));
             case 5: return text + " or " + "not ".repeat(9 + r.nextInt(3)) + "ma = 1";
             case 6: return text + " and ma" + " + mb".repeat(30 + r.nextInt(10)) + " < 1";
             case 7: return text + " or 1<2".repeat(5 + r.nextInt(12));
