@@ -838,7 +838,7 @@ public final class BecauseOf {
                 int on = steps[i] % STEP;
                 if (kind <= SUBTRACT) {
                     int value = valueOf(on, row);
-                    misses |= isMark(on - FIRST_WORD) && value == NONE;
+                    misses = misses || isMark(on - FIRST_WORD) && value == NONE;
                     left = kind == START ? sum : left;
                     sum = kind == START ? value : kind == ADD ? sum + value : sum - value;
                 } else if (kind == COMPARE) {
@@ -1822,8 +1822,8 @@ public final class BecauseOf {
                 someName = names;
                 allName = names;
             } else if (wrong == least) {
-                someName |= names;
-                allName &= names;
+                someName = someName || names;
+                allName = allName && names;
             }
         }
 
