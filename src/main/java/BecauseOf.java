@@ -1248,12 +1248,14 @@ public final class BecauseOf {
 
         private void readValue(int step) {
             int word = kind();
+            parts++;
             if (word != NUMBER && word >= WORDS) {
                 blame(STRANGE);
             } else if (word == NUMBER && value() == NONE) {
                 blame(WRONG_NUMBER);
+            } else if (parts > MOST_PARTS) {
+                blame(TOO_MANY);
             }
-            countPart();
             addStep(step, word == NUMBER ? value() : Test.FIRST_WORD + word);
             markSet |= isMark(word) ? 1 << word : 0;
             next++;
@@ -1261,19 +1263,14 @@ public final class BecauseOf {
 
         private int readSign() {
             int sign = kind();
+            parts++;
             if (sign != '<' && sign != LESS_OR_SAME && sign != '=' && sign != MORE_OR_SAME && sign != '>') {
                 blame(STRANGE);
-            }
-            countPart();
-            next++;
-            return sign;
-        }
-
-        private void countPart() {
-            parts++;
-            if (parts > MOST_PARTS) {
+            } else if (parts > MOST_PARTS) {
                 blame(TOO_MANY);
             }
+            next++;
+            return sign;
         }
 
         private void addStep(int kind, int on) {

@@ -213,6 +213,9 @@ public final class PromiseTest {
         readView("like among", fault(5, 0));
         readView("like 12345", fault(5, 0));
         readView("like mab", fault(5, 0));
+        readView("like maz", fault(5, 0));
+        readView("like ma0", fault(5, 0));
+        readView("like ma9", fault(5, 0));
         readView("like m", fault(5, 0));
         readView("like mg", fault(5, 0));
         readView("like ma mb", fault(8, 0));
@@ -683,6 +686,12 @@ public final class PromiseTest {
         ask(y, 1, 0, 2, 0, 1, 1, 1, 2);
         ask(y, 0, 0, 2, 0, 1, 1, -1, 2);
         due("next(w)", y.next(w), 3);
+        int any = Texts.view(y, "within 5");
+        // ma, mb and mc -1000 or -500, md 0: and with ma the same as with mb, ma is the first
+        due("next(any)", y.next(any), 3);
+        y.mark(1, 3, 9);
+        y.mark(2, 2, 1);
+        due("next(any)", y.next(any), 0);
         int six = Texts.view(y, "like ma; like mb; like mc; like md; like me; like mf");
         due("next of all six", y.next(six), -2);
     }
@@ -1314,7 +1323,8 @@ public final class PromiseTest {
         due("change(0, -1, 0)", x.change(0, -1, 0), -1);
         due("change(1, 0, 0)", x.change(1, 0, 0), -1);
         due("change(-1, 0, 0)", x.change(-1, 0, 0), -1);
-        due("change(0, 0, 6)", x.change(0, 0, 6), -1);
+        due("change(0, 5, 6)", x.change(0, 5, 6), -1);
+        due("change(0, 5, BIG)", x.change(0, 5, BIG), -1);
         due("change(0, 0, -1)", x.change(0, 0, -1), -1);
         due("told(0, 4)", x.told(0, 4), 3);
 
