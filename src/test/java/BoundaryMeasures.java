@@ -482,7 +482,17 @@ final class BoundaryMeasures {
         due("clash of 0 and 3 within 499", x.clash(0, 0, 0, 3, 499), 0);
         due("clash of 0 and 3 within 500", x.clash(0, 0, 0, 3, 500), 36);
         due("clash of 3 and 1 within 0", x.clash(0, 0, 3, 1, 0), 30);
-        // one pair alone: bars at both ends
+        // of those that came bad one has the MARK 0: by 0 2/2, by 1 to 5 1/2, else 0/2; TRAIT 1 by 0 to 5 1/1, else 0/1
+        BecauseOf z = all0();
+        Boundary.ask(z, 0, 0, 0, 0, 0);
+        Boundary.ask(z, 0, 0, 0, 0, 5);
+        Boundary.ask(z, 0, 0, 0, 1, 5);
+        Boundary.ask(z, 1, 0, 0, 0, 5);
+        Boundary.ask(z, 1, 0, 0, 1, 5);
+        due("clash of 1 and 2 within 0", z.clash(0, 0, 1, 2, 0), 6 + 25);
+        due("clash of 1 and 2 within 499", z.clash(0, 0, 1, 2, 499), 6 + 25);
+        due("clash of 1 and 2 within 500", z.clash(0, 0, 1, 2, 500), 6 + 25 + 30);
+        // bars at both ends
         BecauseOf y = all0();
         for (int v = 0; v < 10; v++) {
             Boundary.ask(y, 0, 0, 0, 1, v);

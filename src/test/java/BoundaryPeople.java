@@ -245,6 +245,17 @@ final class BoundaryPeople {
             due("told(" + k + ", 4)", y.told(k, 4), k);
             due("told(" + (k + 1) + ", 4)", y.told(k + 1, 4), -2);
         }
+        // each as it was, though others stood at its places
+        y.back(0);
+        Boundary.ask(y, 1, 7, 2, 1, 9);
+        y.letter(7, true, false);
+        due("back(1)", y.back(1), 2);
+        int[] second = {0, 1, 0, 0, 1, NONE};
+        for (int what = 0; what < 6; what++) due("told(1, " + what + ")", y.told(1, what), second[what]);
+        due("turned(7, 0)", y.turned(7, 0), 0);
+        due("turned(1, 0)", y.turned(1, 0), 1);
+        due("turned(NONE, 1)", y.turned(NONE, 1), 0);
+        due("back(0)", y.back(0), 1);
         // one made again is as all is then, and stays so
         y.mark(0, 0, 9);
         due("image(3) again", y.image(3), 1);
@@ -305,13 +316,16 @@ final class BoundaryPeople {
         due("back(0) to nothing", x.back(0), 0);
         due("count(1)", x.count(1), 0);
         due("told(0, 0)", x.told(0, 0), -2);
-        due("asks in an empty one", x.asks(0, 0, 0, 0), 0);
-        due("letter in an empty one", x.letter(0, true, false), 0);
+        // what is told now at the places of the others is no more there behind back(3)
+        due("asks in an empty one", x.asks(1, 5, 2, 1), 0);
+        due("letter in an empty one", x.letter(5, false, true), 0);
+        due("letter in an empty one", x.letter(5, true, false), 1);
         due("back(3) to 200", x.back(3), 200);
         due("count(1)", x.count(1), 200);
         due("asks when there are 200", x.asks(0, 0, 0, 0), NONE);
         due("letter when there are 200", x.letter(0, true, true), NONE);
-        due("told(0, 3)", x.told(0, 3), NONE);
+        int[] first = {0, 0, 0, NONE};
+        for (int what = 0; what < 4; what++) due("told(0, " + what + ")", x.told(0, what), first[what]);
         due("told(199, 0)", x.told(199, 0), 1);
         due("told(199, 1)", x.told(199, 1), 7);
         due("told(199, 2)", x.told(199, 2), 1);
@@ -321,6 +335,7 @@ final class BoundaryPeople {
         // of 200: by 5 and not by 3: 26, by 3 and not by 5: 53
         due("turned(NONE, 1)", x.turned(NONE, 1), 79);
         due("turned(NONE, 2)", x.turned(NONE, 2), 26);
+        due("turned(5, 0)", x.turned(5, 0), 25);
     }
 
     // ---- 39: count

@@ -92,6 +92,15 @@ final class BoundaryRules {
             z.mark(place, 0, 5);
             due("best(0, 2, 0)", z.best(0, 2, 0), 199);
         }
+        // each VIEW of one object by its own CASES
+        BecauseOf v = with("within 5");
+        Texts.view(v, "among trait = 1");
+        Boundary.many(v, 1, 0, 2);
+        Boundary.many(v, 2, 1, 0);
+        due("best(0, 0, 0) of one LET, two not", v.best(0, 0, 0), 2);
+        due("best(1, 0, 0) of the two", v.best(1, 0, 0), 2);
+        due("best(1, 1, 0) of the two", v.best(1, 1, 0), 0);
+        due("best(0, 0, 0) again", v.best(0, 0, 0), 2);
         // and those not taken don't
         BecauseOf w = with("among trait = 1");
         Boundary.many(w, 99, 0, 0);
@@ -123,6 +132,27 @@ final class BoundaryRules {
                 for (int i = 0; i < 3; i++) x.mark(i, m, middle - 1 + i);
                 fews("the middle of three", x, 2, 1, 0);
             }
+        }
+        // each part is true of somebody here, and only two parts of nobody
+        BecauseOf z = with("within 5");
+        Boundary.ask(z, 0, 0, 0, 0, 0, 0, 0, 0, 0, 0);
+        Boundary.ask(z, 1, 0, 0, 0, 9, 9, 9, 9, 9, 9);
+        due("best(0, 1, 0) of 0 and 9", z.best(0, 1, 0), 1);
+        fews("0 and 9, neither LET", z, 2, 1, 0);
+        // no part of a MARK is true by another MARK
+        for (int m = 0; m < 5; m++) {
+            BecauseOf w = with("within 5");
+            for (int i = 0; i < 3; i++) Boundary.ask(w, 0, 0, i == 2 ? 0 : 2, 0);
+            w.mark(0, m, 3);
+            w.mark(1, m, 9);
+            w.mark(2, m, 9);
+            w.mark(1, m + 1, 0);
+            fews("LET by either of two MARKS", w, -2, 0);
+            w.mark(1, m, 0);
+            w.mark(0, m + 1, 9);
+            w.mark(1, m + 1, NONE);
+            w.mark(2, m, 4);
+            fews("LET by one MARK", w, 1, 0);
         }
         // no part is true of 0 as of 9 and not of one that is missing
         BecauseOf y = with("within 5");
@@ -248,6 +278,12 @@ final class BoundaryRules {
         Boundary.ask(x, 1, 0, 0, 0, 9);
         // one: TRAIT is 0 is WRONG in 2, at least 9 in 2; two: TRAIT is 0 and at least 9 in 1
         withs("both tell", x, 1, 2);
+        // one of the rules that are not WRONG names it, another doesn't: ma at least 9 and TRAIT is 0, mb and mc at least 9
+        BecauseOf z = with("within 5");
+        int[][] all = {{0, 2, 9, 9, 9}, {1, 0, 9, 8, 9}, {0, 0, 8, 9, 8}, {0, 0, 8, 8, 9}, {1, 0, 9, 9, 8}};
+        for (int[] a : all) Boundary.ask(z, a[0], 0, a[1], 0, a[2], a[3], a[4]);
+        due("best(0, 2, 0) of two rules", z.best(0, 2, 0), 0);
+        due("best(0, 2, 1) of two rules", z.best(0, 2, 1), 1);
         // TRAIT is 1, too
         BecauseOf y = with("within 5");
         Boundary.many(y, 1, 1, 2);

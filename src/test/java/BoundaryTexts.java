@@ -310,6 +310,10 @@ final class BoundaryTexts {
         due("rule() of 400 signs", Texts.rule(y, "[".repeat(400)), Boundary.fault(10, 2));
         due("rule() of 400 bytes 255", Texts.rule(y, "\u00ff".repeat(400)), Boundary.fault(0, 0));
         due("view() of 400 ;", Texts.view(y, ";".repeat(400)), Boundary.fault(0, 0));
+        due("rule() of 10 signs", Texts.rule(y, "[".repeat(10)), Boundary.fault(10, 0));
+        // a FAULT leaves nothing for the next text
+        due("rule() of 400 bytes", Texts.rule(y, "ma = 1" + " ".repeat(394)), 0);
+        due("view() of 400 bytes", Texts.view(y, "among ma = 1" + " ".repeat(388)), 0);
     }
 
     // ---- 7 and 8: words, bytes, numbers
@@ -317,7 +321,7 @@ final class BoundaryTexts {
     private static void words() {
         at(8, "WORDS (small letters and digits, as far as these go on)");
         Boundary.readsTest("ma=1", "mf=1", "trait=1", "office=1", "stage=1", "came=1", "known=1", "1=1and 1=1", "1=1or 1=1", "not[1=1]");
-        String[] no = {"m", "mg", "maa", "ma0", "ma9", "mb1", "trai", "traits", "offic", "offices", "stag", "stages", "cam", "cames", "know", "knowns", "a", "z", "like"};
+        String[] no = {"m", "mg", "maa", "maz", "ma0", "ma9", "mb1", "trai", "traits", "offic", "offices", "stag", "stages", "cam", "cames", "know", "knowns", "a", "z", "like"};
         for (String word : no) Boundary.refusesTest(word + "=1", 0, 0);
         Boundary.refusesTest("1=1 andma=1", 4, 0);
         Boundary.refusesTest("1=1 and1=1", 4, 0);
@@ -365,6 +369,12 @@ final class BoundaryTexts {
         for (String text : ends) {
             Boundary.refusesTest(text, text.length(), 0);
             Boundary.refusesTest(text + "  ", text.length() + 2, 0);
+        }
+        // the WORDS that stand elsewhere are no VALUES
+        for (String word : new String[] {"among", "like", "near", "within", "and", "or", "not"}) {
+            Boundary.refusesTest("1=" + word, 2, 0);
+            Boundary.refusesTest("1+" + word + "=1", 2, 0);
+            Boundary.refusesTest(word + "=1", word.equals("not") ? 3 : 0, 0);
         }
         Boundary.refusesTest("]", 0, 0);
         Boundary.refusesTest("[]", 1, 0);
@@ -476,6 +486,18 @@ final class BoundaryTexts {
         BecauseOf x = new BecauseOf();
         for (int i = 0; i < 3; i++) due("rule()", Texts.rule(x, thirteen + "+1"), i);
         due("view()", Texts.view(x, "like ma;among " + thirteen + "+1;near mb 5;within 5"), 0);
+        // eight RULES and eight VIEWS, each with as much as there may be
+        BecauseOf y = new BecauseOf();
+        Boundary.ask(y, 0, 0, 0, 0, 5);
+        for (int i = 0; i < 8; i++) {
+            String all = "not ".repeat(9) + "[ma=" + i + " or " + "1=2 or ".repeat(11) + "1+1=ma]";
+            due("a full rule()", Texts.rule(y, all), i);
+            due("a full view()", Texts.view(y, "among " + all), i);
+        }
+        for (int i = 0; i < 8; i++) {
+            due("says(" + i + ", 0)", y.says(i, 0), i == 5 ? 0 : 1);
+            due("takes(" + i + ", NONE)", y.takes(i, NONE), i == 5 ? 0 : 1);
+        }
 
         at(8, "3 one VALUE or FACT too many (at its first byte; of a FACT at its SIGN)");
         // the 41st is a VALUE, the second one of a FACT

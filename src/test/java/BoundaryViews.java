@@ -684,6 +684,13 @@ final class BoundaryViews {
         Boundary.many(y, 1, 0, 2);
         // 1000 - 2000; without 0 or 2: 500 - 1000, without 1: 2000 - 2000, without 3: -2000
         swayed("-1000", y, 1, 0);
+        // the CASE is of a second GROUP: 1000 - 1000 of the first, -1000 of it
+        BecauseOf w = with("like ma");
+        Boundary.ask(w, 0, 0, 2, 0, 1);
+        Boundary.ask(w, 1, 0, 2, 0, 1);
+        Boundary.ask(w, 0, 0, 0, 0, 2);
+        Boundary.ask(w, 1, 0, 2, 0, 2);
+        swayed("0 and -1000", w, 2, 0);
         // without sign: 1000 and -1000 are the same far
         BecauseOf z = with("like ma");
         Boundary.ask(z, 0, 0, 2, 0, 1);
