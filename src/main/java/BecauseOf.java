@@ -1608,7 +1608,7 @@ public final class BecauseOf {
             }
             for (int step = 0; step <= SIDE && column > 0 && column <= SIDE; step++) {
                 int before = cameFrom[column];
-                rowOf[column] = before >= 0 && before <= SIDE ? rowOf[before] : 0;
+                rowOf[column] = rowAt(before);
                 column = before;
             }
         }
@@ -1617,8 +1617,14 @@ public final class BecauseOf {
             return column >= 0 && column <= SIDE && rowOf[column] != 0;
         }
 
+        /** 0 if the column is free. */
+        private int rowAt(int column) {
+            int row = column >= 0 && column <= SIDE ? rowOf[column] : 0;
+            return row >= 0 && row <= SIDE ? row : 0;
+        }
+
         private int reachNext(int column) {
-            int row = rowOf[column];
+            int row = rowAt(column);
             int nearest = 0;
             int least = NO_WAY;
             for (int j = 1; j <= SIDE; j++) {
@@ -1636,7 +1642,7 @@ public final class BecauseOf {
             }
             for (int j = 0; j <= SIDE; j++) {
                 if (reached[j]) {
-                    rowPrice[rowOf[j]] += least;
+                    rowPrice[rowAt(j)] += least;
                     columnPrice[j] -= least;
                 } else {
                     slack[j] -= least;
@@ -1649,7 +1655,7 @@ public final class BecauseOf {
             found = 0;
             sum = 0;
             for (int j = 1; j <= SIDE; j++) {
-                int cost = costs[rowOf[j] * (SIDE + 1) + j];
+                int cost = costs[rowAt(j) * (SIDE + 1) + j];
                 if (cost < FAR) {
                     found++;
                     sum += cost;
@@ -1831,9 +1837,14 @@ public final class BecauseOf {
         private int wrongOf(int a, int b) {
             int wrong = 0;
             for (int i = 0; i < used && i < SET; i++) {
-                wrong += Long.bitCount((parts[a * SET + i] & parts[b * SET + i]) ^ let[i]);
+                wrong += Long.bitCount((trueOf(a, i) & trueOf(b, i)) ^ let[i]);
             }
             return wrong;
+        }
+
+        private long trueOf(int part, int i) {
+            int place = part * SET + i;
+            return place >= 0 && place < parts.length ? parts[place] : 0;
         }
     }
 
